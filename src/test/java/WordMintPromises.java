@@ -290,6 +290,10 @@ public final class WordMintPromises {
         fault(3, "field x 2;field y 2;order a 1:x,y,^x,z;");
         fault(3, "field x 2;order a 1:x;alias b=a,x 1,^x 9;");
         good("field a 1;order a 1:a;alias b=a,a 1;field b 2;");
+        // NAMES that are near one another are not one
+        good("field a 1;field aa 1;field az 1;field a0 1;field a9 1;field b 1;field ab 1;field ba 1;field b0 1;");
+        good("order abcdefgh 1;order abcdefg0 1;order bbcdefgh 1;order abcdefg 1;alias z9999999=abcdefg;");
+        fault(3, "order abcdefg9 1;order abcdefg8 1;order ^abcdefg9 1;");
         fault(4, "order a 1:^x;");
         fault(4, "order a 1:^x,x;");
         fault(4, "order a 1:^x;field x 1;");
@@ -353,6 +357,11 @@ public final class WordMintPromises {
         due("lay", 9, x.lay(8));
         due("got is none since", -1, x.got(-1));
         due("given numbers stay", 3, x.word(0) & 3);
+        due("a third text", 0, read(x, "field b 2;order s 4:b;room 1 1;"));
+        due("fields", 1, x.count(0));
+        due("orders", 1, x.count(1));
+        due("aliases", 0, x.count(2));
+        due("rooms", 1, x.count(3));
     }
 
     private static void shortAndLong() {
@@ -456,6 +465,16 @@ public final class WordMintPromises {
         WordMint y = laid("field a 3;field b 2;field c 4;order p 1:a;order q 1:a,c;", 16, 2);
         due("a stays at 0", 0, y.order(1, 10));
         due("c ahead of it", 3, y.order(1, 11));
+        // PLACES of a text or a laying ahead do not count
+        WordMint z = laid("field a 3;field b 2;order p 1:a;room 2 9;", 16, 1);
+        due("one that comes", 1, add(z, "order q 1:a,b;"));
+        due("a stays at 0", 0, z.order(1, 10));
+        due("b ahead of it", 3, z.order(1, 11));
+        due("a new text", 0, read(z, "field a 3;field b 2;order q 1:a,b;"));
+        due("lay", 1, z.lay(16));
+        due("a stands first", 2, z.order(0, 10));
+        due("PLACES of a", 1, z.field(0, 2));
+        due("PLACES of b", 1, z.field(1, 2));
     }
 
     private static void coming() {
@@ -692,6 +711,12 @@ public final class WordMintPromises {
         due("one of its UNITS", -1, x.reads(word >> 8, 1));
         due("not with a bit behind its MARK", -1, x.reads(word | 8, 2));
         due("no ALIAS of it", -1, x.got(-1));
+        // a LONG ORDER whose MARK one UNIT holds
+        WordMint y = laid("field h 8;field i 5;order t 1:h,i;", 8, 2);
+        due("a MARK of three bits", 3, y.order(0, 4));
+        due("one UNIT is not enough", -1, y.reads(0, 1));
+        due("nothing was got", -1, y.got(0));
+        due("two are", 0, y.reads(0, 2));
         due("laid again", 11, x.lay(8));
         due("got is gone", -1, x.got(0));
         due("its ALIAS is gone", -1, x.got(-1));
@@ -721,6 +746,18 @@ public final class WordMintPromises {
         due("to an end", 2, x.tests(1));
         due("p", 2, x.order(0, 7));
         due("s", 2, x.order(3, 7));
+        // p 0, q 1, a room's 2 and 3: bit 6 and bit 7 part them alike; by the first no more is asked of the room's
+        WordMint first = laid("order p 1;order q 1;room 2 8;", 8, 2);
+        due("TESTS", 2, first.tests(0));
+        due("ends", 3, first.tests(2));
+        due("q", 2, first.order(1, 7));
+        // all MARKS of a room are taken: its end is none
+        WordMint taken = laid("order p 1;room 1 0;", 8, 1);
+        due("two ends", 2, taken.tests(2));
+        due("one that comes", 1, add(taken, "order q 1;"));
+        due("two ends", 2, taken.tests(2));
+        due("one TEST", 1, taken.tests(0));
+        due("ahead of q", 1, taken.order(1, 7));
         WordMint y = laid("field a 6;order p 9:a;room 4 6;", 8, 9);
         due("TESTS", 1, y.tests(0));
         due("ends", 2, y.tests(2));
