@@ -13,7 +13,6 @@ import java.util.regex.Pattern;
  * slowest and plainest ways: all ways to be SHORT, all rows, MARKS as texts of 0 and 1.
  */
 public final class WordMintAgainstModel {
-    private static int wrong = 0;
     private static final Map<String, Integer> seen = new HashMap<>();
 
     // ---- the model
@@ -879,6 +878,11 @@ public final class WordMintAgainstModel {
         StringBuilder s = new StringBuilder(text);
         for (int n = pick(r, 1, 2); n > 0; n--) {
             int at = r.nextInt(s.length() + 1);
+            if (r.nextBoolean()) {
+                // behind a TELL, where further ones fit
+                at = s.lastIndexOf(";", at) + 1;
+                at = Math.min(at, s.length());
+            }
             if (r.nextInt(3) == 0) {
                 s.delete(at, Math.min(s.length(), at + pick(r, 1, 3)));
             } else {
@@ -899,64 +903,66 @@ public final class WordMintAgainstModel {
 
     // ---- the comparison
 
-    private static void same(long seed, String call, long want, long got) {
-        if (want != got && wrong++ < 40) {
-            System.out.println("seed " + seed + ": " + call + " answered " + got + ", due is " + want);
-        }
-    }
-
-    private static void feed(long seed, WordMint x, Model m, String text) {
-        for (int i = 0; i < text.length(); i += 20) {
-            int[] five = new int[5];
-            for (int j = 0; j < 20; j++) {
-                five[j / 4] = five[j / 4] << 8 | (i + j < text.length() ? text.charAt(i + j) & 255 : 32);
-            }
-            same(seed, "feed", i + 20, x.feed(five[0], five[1], five[2], five[3], five[4]));
-        }
-        same(seed, "back", text.length(), x.back((20 - text.length() % 20) % 20));
+    private static void feed(Desk x, Model m, String text) {
+        x.feedText(text);
         m.tape = text;
     }
 
-    private static void compare(long seed, String state, WordMint x, Model m, Random r) {
-        String at = state + ": ";
-        same(seed, at + "place()", m.place, x.place());
-        for (int what = -1; what <= 9; what++) {
-            same(seed, at + "count(" + what + ")", m.count(what), x.count(what));
-            same(seed, at + "tests(" + what + ")", m.tests(what), x.tests(what));
-        }
-        for (int i = -2; i <= 6; i++) {
-            same(seed, at + "got(" + i + ")", m.got(i), x.got(i));
-        }
-        for (int k = -1; k <= 41; k++) {
-            for (int what = -1; what <= 27; what++) {
-                same(seed, at + "order(" + k + ", " + what + ")", m.order(k, what), x.order(k, what));
-                if (k < 18) {
-                    same(seed, at + "field(" + k + ", " + what + ")", m.field(k, what), x.field(k, what));
-                    same(seed, at + "room(" + k + ", " + what + ")", m.room(k, what), x.room(k, what));
-                    same(seed, at + "alias(" + k + ", " + what + ")", m.alias(k, what), x.alias(k, what));
-                }
+    /** Asks some of all that can be asked, as an object has but 512 calls. */
+    private static void compare(String state, Desk x, Model m, Random r, int questions) {
+        Due.same(state + ": place()", m.place, x.place());
+        for (int n = 0; n < questions && x.callsLeft() > 20; n++) {
+            int kind = r.nextInt(20);
+            if (kind < 9) {
+                compareOrder(state, x, m, r);
+            } else if (kind < 15) {
+                compareOthers(state, kind, x, m, r);
+            } else if (kind < 18) {
+                int what = kind == 15 ? pick(r, -1, 3) : pick(r, -1, 9);
+                boolean tests = kind == 15;
+                Due.same(state + (tests ? ": tests(" : ": count(") + what + ")", tests ? m.tests(what) : m.count(what),
+                    tests ? x.tests(what) : x.count(what));
+            } else {
+                compareWord(state, x, m, r);
             }
         }
-        compareWords(seed, at, x, m, r);
     }
 
-    private static void compareWords(long seed, String at, WordMint x, Model m, Random r) {
-        for (int n = 0; n < 12; n++) {
-            int i = pick(r, -1, 6);
-            int v = r.nextInt(3) == 0 ? pick(r, -1, 65536) : r.nextInt(4);
-            same(seed, at + "give", m.give(i, v) ? 1 : 0, x.give(i, v) ? 1 : 0);
-            int k = pick(r, -1, m.orders.size());
-            long word = m.word(k);
-            same(seed, at + "word(" + k + ")", word, x.word(k));
-            int units = pick(r, 0, 3);
-            long w = word >= 0 && r.nextInt(3) > 0 ? word : r.nextLong();
-            if (word >= 0 && r.nextInt(4) == 0) {
-                w = word << m.unit | r.nextInt(1 << m.unit);
-            }
-            same(seed, at + "reads(" + w + ", " + units + ")", m.reads(w, units), x.reads(w, units));
-            for (int g = -1; g <= 6; g++) {
-                same(seed, at + "got(" + g + ")", m.got(g), x.got(g));
-            }
+    private static void compareOrder(String state, Desk x, Model m, Random r) {
+        int k = r.nextInt(8) == 0 ? pick(r, -1, 41) : pick(r, 0, m.orders.size());
+        int what = r.nextBoolean() ? pick(r, 3, 7) : r.nextBoolean() ? pick(r, 10, 13) : pick(r, -1, 27);
+        Due.same(state + ": order(" + k + ", " + what + ")", m.order(k, what), x.order(k, what));
+    }
+
+    private static void compareOthers(String state, int kind, Desk x, Model m, Random r) {
+        int k = pick(r, -1, kind < 11 ? 12 : kind < 13 ? 4 : 16);
+        int what = kind < 13 ? pick(r, -1, 5) : r.nextBoolean() ? pick(r, -1, 13) : pick(r, 18, 27);
+        if (kind < 11) {
+            Due.same(state + ": field(" + k + ", " + what + ")", m.field(k, what), x.field(k, what));
+        } else if (kind < 13) {
+            Due.same(state + ": room(" + k + ", " + what + ")", m.room(k, what), x.room(k, what));
+        } else {
+            Due.same(state + ": alias(" + k + ", " + what + ")", m.alias(k, what), x.alias(k, what));
+        }
+    }
+
+    private static void compareWord(String state, Desk x, Model m, Random r) {
+        int i = pick(r, -1, 6);
+        int v = r.nextInt(3) == 0 ? pick(r, -1, 65536) : r.nextInt(4);
+        Due.same(state + ": give(" + i + ", " + v + ")", m.give(i, v), x.give(i, v));
+        int k = pick(r, -1, m.orders.size());
+        long word = m.word(k);
+        Due.same(state + ": word(" + k + ")", word, x.word(k));
+        int units = r.nextInt(6) == 0 ? pick(r, 0, 3) : pick(r, 1, 2);
+        long w = word >= 0 && r.nextInt(3) > 0 ? word : r.nextLong();
+        if (word >= 0 && r.nextInt(4) == 0) {
+            w = word << m.unit | r.nextInt(1 << m.unit);
+        }
+        int read = m.reads(w, units);
+        note(read < 0 ? "reads none" : "reads one");
+        Due.same(state + ": reads(" + w + ", " + units + ")", read, x.reads(w, units));
+        for (int g : new int[] {-1, pick(r, 0, 2), pick(r, -2, 6)}) {
+            Due.same(state + ": got(" + g + ")", m.got(g), x.got(g));
         }
     }
 
@@ -965,50 +971,55 @@ public final class WordMintAgainstModel {
     }
 
     private static void run(long seed) {
+        Due.sentence("seed " + seed);
         Random r = new Random(seed);
-        WordMint x = new WordMint();
+        Desk x = new Desk();
         Model m = new Model();
-        for (int round = 0; round < 3; round++) {
+        for (int round = 0; round < 5; round++) {
             String text = text(r);
-            if (text.length() > 2980) {
-                continue;
-            }
             int how = r.nextInt(4);
             String given = how == 0 ? spoil(r, text) : how == 1 ? renamed(r, text) : text;
-            feed(seed, x, m, given);
+            if (given.length() > 2980 || x.callsLeft() < Desk.callsToFeed(given) + 60) {
+                continue;
+            }
+            feed(x, m, given);
             int answer = m.read();
             note("read " + answer);
-            same(seed, "read of <" + given + ">", answer, x.read());
-            compare(seed, "read", x, m, r);
-            for (int step = 0; step < 5; step++) {
-                int u = r.nextInt(6) == 0 ? pick(r, 7, 17) : r.nextBoolean() ? 8 : 16;
-                int cost = m.lay(u);
-                note("lay " + Math.min(cost, 0) + " of " + u);
-                same(seed, "lay(" + u + ") of <" + given + ">", cost, x.lay(u));
-                compare(seed, "lay", x, m, r);
-                for (int c = r.nextInt(5); c > 0; c--) {
-                    String coming = orderText(r, "n" + r.nextInt(60), m.fieldNames, 3);
-                    coming = r.nextInt(5) == 0 ? spoil(r, coming) : coming;
-                    feed(seed, x, m, coming);
-                    int k = m.add();
-                    note("add " + Math.min(k, 0));
-                    same(seed, "add of <" + coming + ">", k, x.add());
-                    compare(seed, "add", x, m, r);
-                }
+            Due.same("read of <" + given + ">", answer, x.read());
+            compare("read", x, m, r, 15);
+            for (int step = r.nextInt(4); step > 0 && x.callsLeft() > 30; step--) {
+                layAndAdd(given, x, m, r);
             }
         }
     }
 
+    private static void layAndAdd(String given, Desk x, Model m, Random r) {
+        int u = r.nextInt(8) == 0 ? pick(r, 7, 17) : r.nextBoolean() ? 8 : 16;
+        int cost = m.lay(u);
+        note("lay " + Math.min(cost, 0));
+        Due.same("lay(" + u + ") of <" + given + ">", cost, x.lay(u));
+        compare("lay", x, m, r, 20);
+        for (int n = r.nextInt(5); n > 0; n--) {
+            String coming = orderText(r, "n" + r.nextInt(60), m.fieldNames, 3);
+            coming = r.nextInt(5) == 0 ? spoil(r, coming) : coming;
+            if (x.callsLeft() < Desk.callsToFeed(coming) + 30) {
+                return;
+            }
+            feed(x, m, coming);
+            int k = m.add();
+            note("add " + Math.min(k, 0));
+            Due.same("add of <" + coming + ">", k, x.add());
+            compare("add", x, m, r, 10);
+        }
+    }
+
     public static void main(String[] args) {
-        int runs = args.length > 0 ? Integer.parseInt(args[0]) : 250;
+        int runs = args.length > 0 ? Integer.parseInt(args[0]) : 2000;
         int first = args.length > 1 ? Integer.parseInt(args[1]) : 0;
         for (long seed = first; seed < first + runs; seed++) {
             run(seed);
         }
         System.out.println(new java.util.TreeMap<>(seen));
-        System.out.println(wrong == 0 ? "all answers are the model's" : wrong + " answers are not the model's");
-        if (wrong != 0) {
-            System.exit(1);
-        }
+        Due.end("all answers are the model's");
     }
 }

@@ -2,78 +2,26 @@ import java.lang.reflect.Constructor;
 import java.lang.reflect.Field;
 import java.lang.reflect.Method;
 import java.lang.reflect.Modifier;
-import java.nio.charset.StandardCharsets;
 import java.util.Set;
 import java.util.TreeSet;
+import java.util.function.Supplier;
 
 /** The promises one by one: ordinary inputs, the edges that the document names, wrong inputs. */
 public final class WordMintPromises {
-    private static int wrong = 0;
-
-    private static void due(String what, long want, long got) {
-        if (got != want) {
-            wrong++;
-            System.out.println(what + " answered " + got + ", due is " + want);
-        }
-    }
-
-    private static void due(String what, boolean want, boolean got) {
-        due(what, want ? 1 : 0, got ? 1 : 0);
-    }
-
-    /** Puts the text behind the tape. */
-    private static void feed(WordMint x, String text) {
-        byte[] bytes = text.getBytes(StandardCharsets.ISO_8859_1);
-        int there = x.count(8);
-        for (int i = 0; i < bytes.length; i += 20) {
-            int[] five = new int[5];
-            for (int j = 0; j < 20; j++) {
-                int b = i + j < bytes.length ? bytes[i + j] & 255 : 32;
-                five[j / 4] = five[j / 4] << 8 | b;
-            }
-            due("feed", there + i + 20, x.feed(five[0], five[1], five[2], five[3], five[4]));
-        }
-        int behind = (20 - bytes.length % 20) % 20;
-        due("back", there + bytes.length, x.back(behind));
-    }
-
-    private static int read(WordMint x, String text) {
-        feed(x, text);
-        return x.read();
-    }
-
-    private static int add(WordMint x, String text) {
-        feed(x, text);
-        return x.add();
-    }
-
-    private static WordMint told(String text) {
-        WordMint x = new WordMint();
-        due("read of <" + text + ">", 0, read(x, text));
-        due("place behind it", WordMint.NONE, x.place());
-        return x;
-    }
-
-    private static WordMint laid(String text, int u, int cost) {
-        WordMint x = told(text);
-        due("lay of <" + text + ">", cost, x.lay(u));
-        return x;
-    }
-
     /** The text's FAULT, at the byte where the mark ^ stands (which is no part of it). */
     private static void fault(int number, String marked) {
         int at = marked.indexOf('^');
         String text = marked.replace("^", "");
-        WordMint x = told("field keep 3; order stay 7: keep;");
-        due("read of <" + text + ">", number, read(x, text));
-        due("place in <" + text + ">", at, x.place());
-        due("tape behind <" + text + ">", 0, x.count(8));
-        due("a FIELD stays", 1, x.count(0));
-        due("USE stays", 7, x.order(0, 0));
+        Desk x = Desk.told("field keep 3; order stay 7: keep;");
+        Due.same("read of <" + text + ">", number, x.readText(text));
+        Due.same("place in <" + text + ">", at, x.place());
+        Due.same("tape behind <" + text + ">", 0, x.count(8));
+        Due.same("a FIELD stays", 1, x.count(0));
+        Due.same("USE stays", 7, x.order(0, 0));
     }
 
     private static void good(String text) {
-        told(text);
+        Desk.told(text);
     }
 
     private static String repeat(String part, int from, int to) {
@@ -91,77 +39,77 @@ public final class WordMintPromises {
                 names.add(m.getName() + m.getParameterCount());
             }
         }
-        due("methods are the face's", true, names.equals(new TreeSet<>(Set.of("feed5", "back1", "read0", "place0",
+        Due.same("methods are the face's", true, names.equals(new TreeSet<>(Set.of("feed5", "back1", "read0", "place0",
             "lay1", "add0", "order2", "field2", "room2", "alias2", "give2", "word1", "reads2", "got1", "tests1", "count1"))));
         int seen = 0;
         for (Field f : WordMint.class.getDeclaredFields()) {
             seen += Modifier.isPrivate(f.getModifiers()) ? 0 : 1;
         }
-        due("constants", 1, seen);
+        Due.same("constants", 1, seen);
         Constructor<?>[] makers = WordMint.class.getDeclaredConstructors();
-        due("constructors", 1, makers.length);
-        due("NONE", -1, WordMint.NONE);
+        Due.same("constructors", 1, makers.length);
+        Due.same("NONE", -1, WordMint.NONE);
     }
 
     private static void newObject() {
-        WordMint x = new WordMint();
+        Desk x = new Desk();
         for (int what = 0; what <= 8; what++) {
-            due("count(" + what + ") of a new one", 0, x.count(what));
+            Due.same("count(" + what + ") of a new one", 0, x.count(what));
         }
-        due("place of a new one", -1, x.place());
-        due("order of a new one", -1, x.order(0, 0));
-        due("field of a new one", -1, x.field(0, 0));
-        due("room of a new one", -1, x.room(0, 0));
-        due("alias of a new one", -1, x.alias(0, 0));
-        due("word of a new one", -1, x.word(0));
-        due("reads of a new one", -1, x.reads(0, 1));
-        due("got of a new one", -1, x.got(0));
-        due("got of a new one", -1, x.got(-1));
-        due("tests of a new one", -1, x.tests(0));
-        due("add to a new one", -3, x.add());
-        due("lay of nothing", 0, x.lay(8));
-        due("unit", 8, x.count(4));
+        Due.same("place of a new one", -1, x.place());
+        Due.same("order of a new one", -1, x.order(0, 0));
+        Due.same("field of a new one", -1, x.field(0, 0));
+        Due.same("room of a new one", -1, x.room(0, 0));
+        Due.same("alias of a new one", -1, x.alias(0, 0));
+        Due.same("word of a new one", -1, x.word(0));
+        Due.same("reads of a new one", -1, x.reads(0, 1));
+        Due.same("got of a new one", -1, x.got(0));
+        Due.same("got of a new one", -1, x.got(-1));
+        Due.same("tests of a new one", -1, x.tests(0));
+        Due.same("add to a new one", -3, x.add());
+        Due.same("lay of nothing", 0, x.lay(8));
+        Due.same("unit", 8, x.count(4));
     }
 
     private static void tape() {
-        WordMint x = new WordMint();
-        due("back of nothing", 0, x.back(0));
-        due("back too far", -1, x.back(1));
+        Desk x = new Desk();
+        Due.same("back of nothing", 0, x.back(0));
+        Due.same("back too far", -1, x.back(1));
         for (int i = 1; i <= 149; i++) {
-            due("feed", 20 * i, x.feed(0x20202020, 0x20202020, 0x20202020, 0x20202020, 0x20202020));
+            Due.same("feed", 20 * i, x.feed(0x20202020, 0x20202020, 0x20202020, 0x20202020, 0x20202020));
         }
-        due("back 1", 2979, x.back(1));
-        due("feed to 2999", 2999, x.feed(0x20202020, 0x20202020, 0x20202020, 0x20202020, 0x20202020));
-        due("feed above 3000", -1, x.feed(0, 0, 0, 0, 0));
-        due("nothing came", 2999, x.count(8));
-        due("back 19", 2980, x.back(19));
-        due("feed to 3000", 3000, x.feed(0x20202020, 0x20202020, 0x20202020, 0x20202020, 0x20206162));
-        due("feed to a full one", -1, x.feed(0, 0, 0, 0, 0));
-        due("back below 0", -1, x.back(-1));
-        due("back least", -1, x.back(Integer.MIN_VALUE));
-        due("back too far", -1, x.back(3001));
-        due("count", 3000, x.count(8));
-        due("read of a full tape", 1, x.read());
-        due("place in it", 2998, x.place());
-        due("tape is empty", 0, x.count(8));
-        due("feed", 20, x.feed(0x6669656c, 0x6420780a, 0x09310d3b, 0x80ff0041, 0x5a7b602f));
-        due("read", 1, x.read());
-        due("no blank: 128", 12, x.place());
-        feed(x, "field b 4; order bb 1: b;");
-        due("back whole", 0, x.back(25));
-        due("read of nothing", 0, x.read());
-        due("nothing is told", 0, x.count(0));
-        feed(x, "field ");
-        feed(x, "c 5;");
-        due("read of two parts", 0, x.read());
-        due("width", 5, x.field(0, 0));
+        Due.same("back 1", 2979, x.back(1));
+        Due.same("feed to 2999", 2999, x.feed(0x20202020, 0x20202020, 0x20202020, 0x20202020, 0x20202020));
+        Due.same("feed above 3000", -1, x.feed(0, 0, 0, 0, 0));
+        Due.same("nothing came", 2999, x.count(8));
+        Due.same("back 19", 2980, x.back(19));
+        Due.same("feed to 3000", 3000, x.feed(0x20202020, 0x20202020, 0x20202020, 0x20202020, 0x20206162));
+        Due.same("feed to a full one", -1, x.feed(0, 0, 0, 0, 0));
+        Due.same("back below 0", -1, x.back(-1));
+        Due.same("back least", -1, x.back(Integer.MIN_VALUE));
+        Due.same("back too far", -1, x.back(3001));
+        Due.same("count", 3000, x.count(8));
+        Due.same("read of a full tape", 1, x.read());
+        Due.same("place in it", 2998, x.place());
+        Due.same("tape is empty", 0, x.count(8));
+        Due.same("feed", 20, x.feed(0x6669656c, 0x6420780a, 0x09310d3b, 0x80ff0041, 0x5a7b602f));
+        Due.same("read", 1, x.read());
+        Due.same("no blank: 128", 12, x.place());
+        x.feedText("field b 4; order bb 1: b;");
+        Due.same("back whole", 0, x.back(25));
+        Due.same("read of nothing", 0, x.read());
+        Due.same("nothing is told", 0, x.count(0));
+        x.feedText("field ");
+        x.feedText("c 5;");
+        Due.same("read of two parts", 0, x.read());
+        Due.same("width", 5, x.field(0, 0));
         StringBuilder full = new StringBuilder("field c 5;");
         while (full.length() < 3000) {
             full.append("\n");
         }
-        due("read of 3000 bytes", 0, read(x, full.toString()));
-        due("read of 3000 bytes with an open end", 1, read(x, full.substring(0, 2996) + "room"));
-        due("place at the text's end", 3000, x.place());
+        Due.same("read of 3000 bytes", 0, x.readText(full.toString()));
+        Due.same("read of 3000 bytes with an open end", 1, x.readText(full.substring(0, 2996) + "room"));
+        Due.same("place at the text's end", 3000, x.place());
     }
 
     private static void syntaxFaults() {
@@ -336,435 +284,438 @@ public final class WordMintPromises {
     }
 
     private static void readings() {
-        WordMint x = laid("field a 4;order r 3:a;alias z=r,a 9;room 2 4;", 8, 3);
-        due("reads", 0, x.reads(9, 1));
-        due("read with a FAULT", 5, read(x, "field a 0;"));
-        due("place", 8, x.place());
-        due("all stays laid", 8, x.count(4));
-        due("got stays", 9, x.got(0));
-        due("alias stays", 0, x.got(-1));
-        due("FIELDS stay", 1, x.count(0));
-        due("give", true, x.give(0, 3));
-        due("a new text", 0, read(x, "field b 2;field c 3;order s 4:b;order t 5:c,b;"));
-        due("place", -1, x.place());
-        due("nothing is laid", 0, x.count(4));
-        due("fields", 2, x.count(0));
-        due("orders", 2, x.count(1));
-        due("aliases", 0, x.count(2));
-        due("rooms", 0, x.count(3));
-        due("got is gone", -1, x.got(0));
-        due("word needs a laying", -1, x.word(0));
-        due("lay", 9, x.lay(8));
-        due("got is none since", -1, x.got(-1));
-        due("given numbers stay", 3, x.word(0) & 3);
-        due("a third text", 0, read(x, "field b 2;order s 4:b;room 1 1;"));
-        due("fields", 1, x.count(0));
-        due("orders", 1, x.count(1));
-        due("aliases", 0, x.count(2));
-        due("rooms", 1, x.count(3));
+        Desk x = Desk.laid("field a 4;order r 3:a;alias z=r,a 9;room 2 4;", 8, 3);
+        Due.same("reads", 0, x.reads(9, 1));
+        Due.same("read with a FAULT", 5, x.readText("field a 0;"));
+        Due.same("place", 8, x.place());
+        Due.same("all stays laid", 8, x.count(4));
+        Due.same("got stays", 9, x.got(0));
+        Due.same("alias stays", 0, x.got(-1));
+        Due.same("FIELDS stay", 1, x.count(0));
+        Due.same("give", true, x.give(0, 3));
+        Due.same("a new text", 0, x.readText("field b 2;field c 3;order s 4:b;order t 5:c,b;"));
+        Due.same("place", -1, x.place());
+        Due.same("nothing is laid", 0, x.count(4));
+        Due.same("fields", 2, x.count(0));
+        Due.same("orders", 2, x.count(1));
+        Due.same("aliases", 0, x.count(2));
+        Due.same("rooms", 0, x.count(3));
+        Due.same("got is gone", -1, x.got(0));
+        Due.same("word needs a laying", -1, x.word(0));
+        Due.same("lay", 9, x.lay(8));
+        Due.same("got is none since", -1, x.got(-1));
+        Due.same("given numbers stay", 3, x.word(0) & 3);
+        Due.same("a third text", 0, x.readText("field b 2;order s 4:b;room 1 1;"));
+        Due.same("fields", 1, x.count(0));
+        Due.same("orders", 1, x.count(1));
+        Due.same("aliases", 0, x.count(2));
+        Due.same("rooms", 1, x.count(3));
     }
 
     private static void shortAndLong() {
         // a SHORT ORDER of 7 BITS takes a half; two take all, a third has no place
-        laid("field a 7;order p 5:a;order q 5:a;", 8, 10);
-        WordMint x = laid("field a 7;order p 5:a;order q 5:a;order r 5:a;", 8, 25);
-        due("ORDER 0 is SHORT of alike ones", 1, x.order(0, 3));
-        due("ORDER 1", 2, x.order(1, 3));
-        due("ORDER 2", 2, x.order(2, 3));
-        x = laid("field a 7;order p 5:a;order q 5:a;order r 6:a;", 8, 26);
-        due("the one that saves most", 1, x.order(2, 3));
-        due("not ORDER 0", 2, x.order(0, 3));
-        due("not ORDER 1", 2, x.order(1, 3));
+        Desk.laid("field a 7;order p 5:a;order q 5:a;", 8, 10);
+        Desk x = Desk.laid("field a 7;order p 5:a;order q 5:a;order r 5:a;", 8, 25);
+        Due.same("ORDER 0 is SHORT of alike ones", 1, x.order(0, 3));
+        Due.same("ORDER 1", 2, x.order(1, 3));
+        Due.same("ORDER 2", 2, x.order(2, 3));
+        x = Desk.laid("field a 7;order p 5:a;order q 5:a;order r 6:a;", 8, 26);
+        Due.same("the one that saves most", 1, x.order(2, 3));
+        Due.same("not ORDER 0", 2, x.order(0, 3));
+        Due.same("not ORDER 1", 2, x.order(1, 3));
         // two that are small save more than the one that is dear
-        x = laid("field a 6;field b 5;order p 9:a;order q 5:b;order r 5:b;room 1 15;room 1 13;", 8, 28);
-        due("p", 2, x.order(0, 3));
-        due("q", 1, x.order(1, 3));
-        due("r", 1, x.order(2, 3));
+        x = Desk.laid("field a 6;field b 5;order p 9:a;order q 5:b;order r 5:b;room 1 15;room 1 13;", 8, 28);
+        Due.same("p", 2, x.order(0, 3));
+        Due.same("q", 1, x.order(1, 3));
+        Due.same("r", 1, x.order(2, 3));
         // USE 0: SHORT where it can be
-        x = laid("order p 0;order q 0;", 8, 0);
-        due("p", 1, x.order(0, 3));
-        due("q", 1, x.order(1, 3));
-        due("SHORT ORDERS", 2, x.count(5));
+        x = Desk.laid("order p 0;order q 0;", 8, 0);
+        Due.same("p", 1, x.order(0, 3));
+        Due.same("q", 1, x.order(1, 3));
+        Due.same("SHORT ORDERS", 2, x.count(5));
         // the greatest BITS of a SHORT one and of a LONG one
-        x = laid("field a 8;field b 7;order p 1:a;", 8, 2);
-        due("8 BITS are LONG", 2, x.order(0, 3));
-        x = laid("field a 8;field b 7;order p 1:a,b;", 8, 2);
-        due("15 BITS: a MARK of one bit", 1, x.order(0, 4));
-        x = laid("field a 15;order p 1:a;", 16, 1);
-        due("15 BITS are SHORT", 1, x.order(0, 3));
-        x = laid("field a 16;order p 1:a;", 16, 2);
-        due("16 BITS are LONG", 2, x.order(0, 3));
-        x = laid("field a 16;field b 8;order p 1:a,b;", 16, 2);
-        due("24 BITS", 8, x.order(0, 4));
+        x = Desk.laid("field a 8;field b 7;order p 1:a;", 8, 2);
+        Due.same("8 BITS are LONG", 2, x.order(0, 3));
+        x = Desk.laid("field a 8;field b 7;order p 1:a,b;", 8, 2);
+        Due.same("15 BITS: a MARK of one bit", 1, x.order(0, 4));
+        x = Desk.laid("field a 15;order p 1:a;", 16, 1);
+        Due.same("15 BITS are SHORT", 1, x.order(0, 3));
+        x = Desk.laid("field a 16;order p 1:a;", 16, 2);
+        Due.same("16 BITS are LONG", 2, x.order(0, 3));
+        x = Desk.laid("field a 16;field b 8;order p 1:a,b;", 16, 2);
+        Due.same("24 BITS", 8, x.order(0, 4));
     }
 
     private static void noWay() {
-        WordMint x = told("field a 16;order p 1:a;");
-        due("no MARK for 16 BITS", -2, x.lay(8));
-        due("nothing is laid", 0, x.count(4));
-        due("laid by 16", 2, x.lay(16));
-        due("reads", 0, x.reads(7, 2));
-        due("no way by 8 again", -2, x.lay(8));
-        due("what was laid stays", 16, x.count(4));
-        due("got stays", 7, x.got(0));
-        due("word stays", 0, x.word(0));
+        Desk x = Desk.told("field a 16;order p 1:a;");
+        Due.same("no MARK for 16 BITS", -2, x.lay(8));
+        Due.same("nothing is laid", 0, x.count(4));
+        Due.same("laid by 16", 2, x.lay(16));
+        Due.same("reads", 0, x.reads(7, 2));
+        Due.same("no way by 8 again", -2, x.lay(8));
+        Due.same("what was laid stays", 16, x.count(4));
+        Due.same("got stays", 7, x.got(0));
+        Due.same("word stays", 0, x.word(0));
         for (int u : new int[] {0, -8, 4, 9, 15, 17, 32, Integer.MIN_VALUE, Integer.MAX_VALUE}) {
-            due("lay(" + u + ")", -1, x.lay(u));
+            Due.same("lay(" + u + ")", -1, x.lay(u));
         }
-        due("what was laid stays", 16, x.count(4));
-        due("a room of 16 bits", -2, told("room 1 16;").lay(8));
-        due("a room of 15 bits", 0, told("room 1 15;").lay(8));
-        due("two rooms of 15 bits", 0, told("room 1 15;room 1 15;").lay(8));
-        due("a room of three times 15 bits", -2, told("room 3 15;").lay(8));
-        due("all is taken, and one more", -2, told("room 2 15;order p 1;").lay(8));
-        due("all but one", 2, told("room 1 15;room 31 10;room 31 5;room 31 0;order p 1;").lay(8));
+        Due.same("what was laid stays", 16, x.count(4));
+        Due.same("a room of 16 bits", -2, Desk.told("room 1 16;").lay(8));
+        Due.same("a room of 15 bits", 0, Desk.told("room 1 15;").lay(8));
+        Due.same("two rooms of 15 bits", 0, Desk.told("room 1 15;room 1 15;").lay(8));
+        Due.same("a room of three times 15 bits", -2, Desk.told("room 3 15;").lay(8));
+        Due.same("all is taken, and one more", -2, Desk.told("room 2 15;order p 1;").lay(8));
+        Due.same("all but one", 2, Desk.told("room 1 15;room 31 10;room 31 5;room 31 0;order p 1;").lay(8));
         // 65536 - 32768 - 126 * 256 leaves 512, which two SHORT ones take; 128 fewer leave one of them LONG
-        due("exactly full", 2, told("room 1 15;room 64 8;room 62 8;order p 1;order q 1;").lay(8));
-        WordMint y = told("room 1 15;room 64 8;room 62 8;room 1 7;order p 1;order q 1;");
-        due("one of both is SHORT", 3, y.lay(8));
-        due("the first", 1, y.order(0, 3));
-        due("256 are left", 128, told("room 1 15;room 64 8;room 63 8;order p 128;").lay(8));
-        due("256 are left, for two", 4, told("room 1 15;room 64 8;room 63 8;order p 1;order q 1;").lay(8));
-        due("nothing is left", -2, told("room 1 15;room 64 8;room 64 8;order p 128;").lay(8));
-        due("full by 16", 0, told("room 64 24;room 64 24;room 64 24;room 64 24;").lay(16));
-        due("above full by 16", -2, told("room 64 24;room 64 24;room 64 24;room 64 24;order p 1;").lay(16));
+        Due.same("exactly full", 2, Desk.told("room 1 15;room 64 8;room 62 8;order p 1;order q 1;").lay(8));
+        Desk y = Desk.told("room 1 15;room 64 8;room 62 8;room 1 7;order p 1;order q 1;");
+        Due.same("one of both is SHORT", 3, y.lay(8));
+        Due.same("the first", 1, y.order(0, 3));
+        Due.same("256 are left", 128, Desk.told("room 1 15;room 64 8;room 63 8;order p 128;").lay(8));
+        Due.same("256 are left, for two", 4, Desk.told("room 1 15;room 64 8;room 63 8;order p 1;order q 1;").lay(8));
+        Due.same("nothing is left", -2, Desk.told("room 1 15;room 64 8;room 64 8;order p 128;").lay(8));
+        Due.same("full by 16", 0, Desk.told("room 64 24;room 64 24;room 64 24;room 64 24;").lay(16));
+        Due.same("above full by 16", -2, Desk.told("room 64 24;room 64 24;room 64 24;room 64 24;order p 1;").lay(16));
     }
 
     private static void marks() {
         // of as many bits: ORDERS first, then rooms; fewer bits ahead
-        WordMint x = laid("field a 4;field b 6;order p 1;order q 2:a;order r 3:b;room 3 12;order s 4:a;room 2 8;", 8, 10);
-        due("r has the fewest", 2, x.order(2, 4));
-        due("r's MARK", 0, x.order(2, 5));
-        due("q's bits", 4, x.order(1, 4));
-        due("q's MARK", 4, x.order(1, 5));
-        due("s's MARK", 5, x.order(3, 5));
-        due("room 0's bits", 4, x.room(0, 3));
-        due("room 0's first MARK", 6, x.room(0, 4));
-        due("p's bits", 8, x.order(0, 4));
-        due("p's MARK", 9 << 4, x.order(0, 5));
-        due("room 1's bits", 8, x.room(1, 3));
-        due("room 1's first MARK", (9 << 4) + 1, x.room(1, 4));
+        Desk x = Desk.laid("field a 4;field b 6;order p 1;order q 2:a;order r 3:b;room 3 12;order s 4:a;room 2 8;", 8, 10);
+        Due.same("r has the fewest", 2, x.order(2, 4));
+        Due.same("r's MARK", 0, x.order(2, 5));
+        Due.same("q's bits", 4, x.order(1, 4));
+        Due.same("q's MARK", 4, x.order(1, 5));
+        Due.same("s's MARK", 5, x.order(3, 5));
+        Due.same("room 0's bits", 4, x.room(0, 3));
+        Due.same("room 0's first MARK", 6, x.room(0, 4));
+        Due.same("p's bits", 8, x.order(0, 4));
+        Due.same("p's MARK", 9 << 4, x.order(0, 5));
+        Due.same("room 1's bits", 8, x.room(1, 3));
+        Due.same("room 1's first MARK", (9 << 4) + 1, x.room(1, 4));
         // a MARK of 32 bits as an int
-        WordMint y = laid("field a 15;order p 9:a;room 63 24;room 64 24;room 1 23;room 63 0;", 16, 9);
-        due("a MARK of 32 bits", (int) 0xff800000L, y.room(3, 4));
-        due("its bits", 32, y.room(3, 3));
+        Desk y = Desk.laid("field a 15;order p 9:a;room 63 24;room 64 24;room 1 23;room 63 0;", 16, 9);
+        Due.same("a MARK of 32 bits", (int) 0xff800000L, y.room(3, 4));
+        Due.same("its bits", 32, y.room(3, 3));
     }
 
     private static void rows() {
         // the second ORDER turns its FIELDS so that both stay where they are
-        WordMint x = laid("field a 3;field b 2;field c 4;order p 1:a,b;order q 1:b,a;order r 1:a,c;", 16, 3);
-        due("a in p", 2, x.order(0, 10));
-        due("b in p", 0, x.order(0, 11));
-        due("b in q", 0, x.order(1, 10));
-        due("a in q", 2, x.order(1, 11));
-        due("a in r: none is better, as told", 4, x.order(2, 10));
-        due("c in r", 0, x.order(2, 11));
-        due("PLACES of a", 2, x.field(0, 2));
-        due("PLACES of b", 1, x.field(1, 2));
-        due("PLACES of c", 1, x.field(2, 2));
-        WordMint y = laid("field a 3;field b 2;field c 4;order p 1:a;order q 1:a,c;", 16, 2);
-        due("a stays at 0", 0, y.order(1, 10));
-        due("c ahead of it", 3, y.order(1, 11));
+        Desk x = Desk.laid("field a 3;field b 2;field c 4;order p 1:a,b;order q 1:b,a;order r 1:a,c;", 16, 3);
+        Due.same("a in p", 2, x.order(0, 10));
+        Due.same("b in p", 0, x.order(0, 11));
+        Due.same("b in q", 0, x.order(1, 10));
+        Due.same("a in q", 2, x.order(1, 11));
+        Due.same("a in r: none is better, as told", 4, x.order(2, 10));
+        Due.same("c in r", 0, x.order(2, 11));
+        Due.same("PLACES of a", 2, x.field(0, 2));
+        Due.same("PLACES of b", 1, x.field(1, 2));
+        Due.same("PLACES of c", 1, x.field(2, 2));
+        Desk y = Desk.laid("field a 3;field b 2;field c 4;order p 1:a;order q 1:a,c;", 16, 2);
+        Due.same("a stays at 0", 0, y.order(1, 10));
+        Due.same("c ahead of it", 3, y.order(1, 11));
         // PLACES of a text or a laying ahead do not count
-        WordMint z = laid("field a 3;field b 2;order p 1:a;room 2 9;", 16, 1);
-        due("one that comes", 1, add(z, "order q 1:a,b;"));
-        due("a stays at 0", 0, z.order(1, 10));
-        due("b ahead of it", 3, z.order(1, 11));
-        due("a new text", 0, read(z, "field a 3;field b 2;order q 1:a,b;"));
-        due("lay", 1, z.lay(16));
-        due("a stands first", 2, z.order(0, 10));
-        due("PLACES of a", 1, z.field(0, 2));
-        due("PLACES of b", 1, z.field(1, 2));
+        Desk z = Desk.laid("field a 3;field b 2;order p 1:a;room 2 9;", 16, 1);
+        Due.same("one that comes", 1, z.addText("order q 1:a,b;"));
+        Due.same("a stays at 0", 0, z.order(1, 10));
+        Due.same("b ahead of it", 3, z.order(1, 11));
+        Due.same("a new text", 0, z.readText("field a 3;field b 2;order q 1:a,b;"));
+        Due.same("lay", 1, z.lay(16));
+        Due.same("a stands first", 2, z.order(0, 10));
+        Due.same("PLACES of a", 1, z.field(0, 2));
+        Due.same("PLACES of b", 1, z.field(1, 2));
     }
 
     private static void coming() {
-        WordMint x = told("field a 4;field b 3;order r 3:a;alias z=r,a 9;room 1 2;room 2 7;");
-        feed(x, "order s 1;");
-        due("nothing is laid", -3, x.add());
-        due("the tape is empty", 0, x.count(8));
-        due("a FAULT that is kept", 1, read(x, "field a 1"));
-        due("place", 9, x.place());
-        due("-3 ahead of a FAULT", -3, add(x, "nothing"));
-        due("place is not changed by -3", 9, x.place());
-        due("lay", 3, x.lay(8));
-        due("one that comes to the second room", 1, add(x, "order s 5:b,a;"));
-        due("place is gone", -1, x.place());
-        due("its UNITS", 2, x.order(1, 3));
-        due("its MARK's bits", 9, x.order(1, 4));
-        due("its MARK", x.room(1, 4), x.order(1, 5));
-        due("it came", 1, x.order(1, 6));
-        due("the other did not", 0, x.order(0, 6));
-        due("a stays at its PLACE", 0, x.order(1, 11));
-        due("b", 4, x.order(1, 10));
-        due("COST", 13, x.count(6));
-        due("free", 2, x.count(7));
-        due("taken", 1, x.room(1, 2));
-        due("taken of the first", 0, x.room(0, 2));
-        due("to the first room", 2, add(x, " order t 1 ; "));
-        due("0s behind its MARK", x.room(0, 4) << 2, x.order(2, 5));
-        due("its MARK's bits", 16, x.order(2, 4));
-        due("the first is full", 3, add(x, "order u 1;"));
-        due("0s behind its MARK", x.room(1, 4) + 1 << 7, x.order(3, 5));
-        due("place without", -1, x.place());
-        due("a FAULT", -1, add(x, "order u 1;"));
-        due("place", 6, x.place());
-        due("all are full", -2, add(x, "order v 1;"));
-        due("place is not changed by -2", 6, x.place());
-        due("the tape is empty", 0, x.count(8));
-        due("it is none", 4, x.count(1));
-        due("no such", -1, x.order(4, 0));
-        due("ORDERS with a", 2, x.field(0, 1));
-        due("laid again", 10, x.lay(8));
-        due("none came since", 0, x.order(1, 6));
-        due("all rooms are free", 3, x.count(7));
-        due("v has a place then", 4, add(x, "order v 1;"));
-        due("a new text", 0, read(x, ""));
-        due("nothing is there", 0, x.count(1));
+        Desk x = Desk.told("field a 4;field b 3;order r 3:a;alias z=r,a 9;room 1 2;room 2 7;");
+        x.feedText("order s 1;");
+        Due.same("nothing is laid", -3, x.add());
+        Due.same("the tape is empty", 0, x.count(8));
+        Due.same("a FAULT that is kept", 1, x.readText("field a 1"));
+        Due.same("place", 9, x.place());
+        Due.same("-3 ahead of a FAULT", -3, x.addText("nothing"));
+        Due.same("place is not changed by -3", 9, x.place());
+        Due.same("lay", 3, x.lay(8));
+        Due.same("one that comes to the second room", 1, x.addText("order s 5:b,a;"));
+        Due.same("place is gone", -1, x.place());
+        Due.same("its UNITS", 2, x.order(1, 3));
+        Due.same("its MARK's bits", 9, x.order(1, 4));
+        Due.same("its MARK", x.room(1, 4), x.order(1, 5));
+        Due.same("it came", 1, x.order(1, 6));
+        Due.same("the other did not", 0, x.order(0, 6));
+        Due.same("a stays at its PLACE", 0, x.order(1, 11));
+        Due.same("b", 4, x.order(1, 10));
+        Due.same("COST", 13, x.count(6));
+        Due.same("free", 2, x.count(7));
+        Due.same("taken", 1, x.room(1, 2));
+        Due.same("taken of the first", 0, x.room(0, 2));
+        Due.same("to the first room", 2, x.addText(" order t 1 ; "));
+        Due.same("0s behind its MARK", x.room(0, 4) << 2, x.order(2, 5));
+        Due.same("its MARK's bits", 16, x.order(2, 4));
+        Due.same("the first is full", 3, x.addText("order u 1;"));
+        Due.same("0s behind its MARK", x.room(1, 4) + 1 << 7, x.order(3, 5));
+        Due.same("place without", -1, x.place());
+        Due.same("a FAULT", -1, x.addText("order u 1;"));
+        Due.same("place", 6, x.place());
+        Due.same("all are full", -2, x.addText("order v 1;"));
+        Due.same("place is not changed by -2", 6, x.place());
+        Due.same("the tape is empty", 0, x.count(8));
+        Due.same("it is none", 4, x.count(1));
+        Due.same("no such", -1, x.order(4, 0));
+        Due.same("ORDERS with a", 2, x.field(0, 1));
+        Due.same("laid again", 10, x.lay(8));
+        Due.same("none came since", 0, x.order(1, 6));
+        Due.same("all rooms are free", 3, x.count(7));
+        Due.same("v has a place then", 4, x.addText("order v 1;"));
+        Due.same("a new text", 0, x.readText(""));
+        Due.same("nothing is there", 0, x.count(1));
     }
 
     private static void comingFaults() {
-        WordMint x = laid("field a 16;field b 8;field c 1;order r 3:a;alias z=r,a 9;room 4 3;", 16, 6);
+        Desk x = Desk.laid("field a 16;field b 8;field c 1;order r 3:a;alias z=r,a 9;room 4 3;", 16, 6);
         String[] texts = {"^", "   ^", "^field d 1;", "^alias q=r;", "^room 1 1;", "^;", "order^", "order s 1^", "order s 1:^;",
             "order s 1;^;", "order s 1; ^order t 1;", "order s 1;\n^field", "order s 1;^%", "order ^r 1;", "order ^z 1;",
             "order s ^10001;", "order s 1:^d;", "order s 1:b,^b;", "order ^s 1:a,b,c;", "order s 1:^s;", "order s 1:^r;",
             "order s 1:a,a,a,a,a,a,^a;", "order s ^123456;", "order ^room 1;"};
         for (String marked : texts) {
             String text = marked.replace("^", "");
-            due("add of <" + text + ">", -1, add(x, text));
-            due("place in <" + text + ">", marked.indexOf('^'), x.place());
-            due("none came", 1, x.count(1));
-            due("free", 4, x.count(7));
-            due("tape", 0, x.count(8));
+            Due.same("add of <" + text + ">", -1, x.addText(text));
+            Due.same("place in <" + text + ">", marked.indexOf('^'), x.place());
+            Due.same("none came", 1, x.count(1));
+            Due.same("free", 4, x.count(7));
+            Due.same("tape", 0, x.count(8));
         }
-        due("too many BITS for the room", -2, add(x, "order s 1:b;"));
-        due("a bit fits", 1, add(x, "order s 1:c;"));
-        due("ORDERS with c", 1, x.field(2, 1));
+        Due.same("too many BITS for the room", -2, x.addText("order s 1:b;"));
+        Due.same("a bit fits", 1, x.addText("order s 1:c;"));
+        Due.same("ORDERS with c", 1, x.field(2, 1));
     }
 
     private static void fortyOrders() {
-        WordMint x = laid(repeat("order o# 1;", 0, 24) + "room 64 3;", 16, 24);
+        Desk x = Desk.laid(repeat("order o# 1;", 0, 24) + "room 64 3;", 16, 24);
         for (int k = 24; k < 40; k++) {
-            due("one that comes", k, add(x, "order o" + k + " 1;"));
+            Due.same("one that comes", k, x.addText("order o" + k + " 1;"));
         }
-        due("a 41st", -1, add(x, " order o40 1;"));
-        due("place of it", 1, x.place());
-        due("SYNTAX ahead of it", -1, add(x, "x order o40 1;"));
-        due("place", 0, x.place());
-        due("nothing on the tape", -1, add(x, "  "));
-        due("place at the end", 2, x.place());
-        due("orders", 40, x.count(1));
-        due("free", 48, x.count(7));
-        due("COST", 24 + 32, x.count(6));
-        due("laid again", 40, x.lay(16));
-        due("all are SHORT", 40, x.count(5));
-        WordMint y = laid("room 64 1;", 8, 0);
+        Due.same("a 41st", -1, x.addText(" order o40 1;"));
+        Due.same("place of it", 1, x.place());
+        Due.same("SYNTAX ahead of it", -1, x.addText("x order o40 1;"));
+        Due.same("place", 0, x.place());
+        Due.same("nothing on the tape", -1, x.addText("  "));
+        Due.same("place at the end", 2, x.place());
+        Due.same("orders", 40, x.count(1));
+        Due.same("free", 48, x.count(7));
+        Due.same("COST", 24 + 32, x.count(6));
+        Due.same("laid again", 40, x.lay(16));
+        Due.same("all are SHORT", 40, x.count(5));
+        Desk y = Desk.laid("room 64 1;", 8, 0);
         for (int k = 0; k < 40; k++) {
-            due("one that comes to nothing", k, add(y, "order o" + k + " 10000;"));
+            Due.same("one that comes to nothing", k, y.addText("order o" + k + " 10000;"));
         }
-        due("a 41st", -1, add(y, "order p 1;"));
-        due("place of it", 0, y.place());
-        due("COST", 800000, y.count(6));
+        Due.same("a 41st", -1, y.addText("order p 1;"));
+        Due.same("place of it", 0, y.place());
+        Due.same("COST", 800000, y.count(6));
     }
 
+    private static final String ASKED = "field a 4;field b 3;order r 3:a,b;order s 0;alias z=r,b 5,a 9;alias y=s;room 2 4;";
+
     private static void askedOf() {
-        WordMint x = told("field a 4;field b 3;order r 3:a,b;order s 0;alias z=r,b 5,a 9;alias y=s;room 2 4;");
-        due("USE", 3, x.order(0, 0));
-        due("FIELDS", 2, x.order(0, 1));
-        due("BITS", 7, x.order(0, 2));
-        due("FIELD 0", 0, x.order(0, 20));
-        due("FIELD 1", 1, x.order(0, 21));
-        due("BITS without FIELDS", 0, x.order(1, 2));
-        due("WIDTH", 3, x.field(1, 0));
-        due("ORDERS with it", 1, x.field(1, 1));
-        due("room's ORDERS", 2, x.room(0, 0));
-        due("room's bits", 4, x.room(0, 1));
-        due("alias's ORDER", 0, x.alias(0, 0));
-        due("alias's ORDER", 1, x.alias(1, 0));
-        due("held", 2, x.alias(0, 1));
-        due("held", 0, x.alias(1, 1));
-        due("its row's first FIELD", 1, x.alias(0, 10));
-        due("its row's second FIELD", 0, x.alias(0, 11));
-        due("held number", 5, x.alias(0, 20));
-        due("held number", 9, x.alias(0, 21));
+        Desk x = Desk.told(ASKED);
+        Due.same("USE", 3, x.order(0, 0));
+        Due.same("FIELDS", 2, x.order(0, 1));
+        Due.same("BITS", 7, x.order(0, 2));
+        Due.same("FIELD 0", 0, x.order(0, 20));
+        Due.same("FIELD 1", 1, x.order(0, 21));
+        Due.same("BITS without FIELDS", 0, x.order(1, 2));
+        Due.same("WIDTH", 3, x.field(1, 0));
+        Due.same("ORDERS with it", 1, x.field(1, 1));
+        Due.same("room's ORDERS", 2, x.room(0, 0));
+        Due.same("room's bits", 4, x.room(0, 1));
+        Due.same("alias's ORDER", 0, x.alias(0, 0));
+        Due.same("alias's ORDER", 1, x.alias(1, 0));
+        Due.same("held", 2, x.alias(0, 1));
+        Due.same("held", 0, x.alias(1, 1));
+        Due.same("its row's first FIELD", 1, x.alias(0, 10));
+        Due.same("its row's second FIELD", 0, x.alias(0, 11));
+        Due.same("held number", 5, x.alias(0, 20));
+        Due.same("held number", 9, x.alias(0, 21));
         for (int what : new int[] {3, 4, 5, 6, 7, 10, 11}) {
-            due("order as laid", -1, x.order(0, what));
+            Due.same("order as laid", -1, x.order(0, what));
         }
         for (int what : new int[] {2, 3, 4}) {
-            due("room as laid", -1, x.room(0, what));
+            Due.same("room as laid", -1, x.room(0, what));
         }
-        due("field as laid", -1, x.field(0, 2));
-        due("word", -1, x.word(0));
-        due("reads", -1, x.reads(0, 2));
+        Due.same("field as laid", -1, x.field(0, 2));
+        Due.same("word", -1, x.word(0));
+        Due.same("reads", -1, x.reads(0, 2));
         for (int what : new int[] {0, 1, 2}) {
-            due("tests as laid", -1, x.tests(what));
+            Due.same("tests as laid", -1, x.tests(what));
         }
         for (int what : new int[] {4, 5, 6, 7}) {
-            due("count as laid", 0, x.count(what));
+            Due.same("count as laid", 0, x.count(what));
         }
-        due("lay", 3, x.lay(8));
-        others(x);
-        due("a new text", 0, read(x, ""));
-        others(x);
+        others(() -> Desk.told(ASKED));
+        others(() -> Desk.laid(ASKED, 8, 3));
+        others(() -> Desk.told(""));
     }
 
     /** What names nothing is NONE, before and after a laying. */
-    private static void others(WordMint x) {
+    private static void others(Supplier<Desk> desks) {
         int[] far = {-1, -2, 64, 1000, Integer.MIN_VALUE, Integer.MAX_VALUE};
         for (int k : far) {
+            Desk x = desks.get();
             for (int what = 0; what < 30; what++) {
-                due("order of " + k, -1, x.order(k, what));
-                due("field of " + k, -1, x.field(k, what));
-                due("room of " + k, -1, x.room(k, what));
-                due("alias of " + k, -1, x.alias(k, what));
+                Due.same("order of " + k, -1, x.order(k, what));
+                Due.same("field of " + k, -1, x.field(k, what));
+                Due.same("room of " + k, -1, x.room(k, what));
+                Due.same("alias of " + k, -1, x.alias(k, what));
             }
-            due("word of " + k, -1, x.word(k));
-            due("got of " + k, -1, x.got(k));
-            due("tests of " + k, -1, x.tests(k));
-            due("count of " + k, -1, x.count(k));
-            due("reads of units " + k, -1, x.reads(0, k));
+            Due.same("word of " + k, -1, x.word(k));
+            Due.same("got of " + k, -1, x.got(k));
+            Due.same("tests of " + k, -1, x.tests(k));
+            Due.same("count of " + k, -1, x.count(k));
+            Due.same("reads of units " + k, -1, x.reads(0, k));
             for (int what : far) {
-                due("order", -1, x.order(0, what));
-                due("field", -1, x.field(0, what));
-                due("room", -1, x.room(0, what));
-                due("alias", -1, x.alias(0, what));
+                Due.same("order", -1, x.order(0, what));
+                Due.same("field", -1, x.field(0, what));
+                Due.same("room", -1, x.room(0, what));
+                Due.same("alias", -1, x.alias(0, what));
             }
         }
+        Desk x = desks.get();
         for (int what : new int[] {8, 9, 12, 19, 22, 26}) {
-            due("order(0, " + what + ")", -1, x.order(0, what));
+            Due.same("order(0, " + what + ")", -1, x.order(0, what));
         }
         for (int what : new int[] {2, 9, 12, 19, 22}) {
-            due("alias(0, " + what + ")", -1, x.alias(0, what));
+            Due.same("alias(0, " + what + ")", -1, x.alias(0, what));
         }
-        due("order(1, 10)", -1, x.order(1, 10));
-        due("order(1, 20)", -1, x.order(1, 20));
-        due("order(2, 0)", -1, x.order(2, 0));
-        due("field(2, 0)", -1, x.field(2, 0));
-        due("field(0, 3)", -1, x.field(0, 3));
-        due("room(1, 0)", -1, x.room(1, 0));
-        due("room(0, 5)", -1, x.room(0, 5));
-        due("alias(2, 0)", -1, x.alias(2, 0));
-        due("tests(3)", -1, x.tests(3));
-        due("count(9)", -1, x.count(9));
-        due("reads of no units", -1, x.reads(0, 0));
-        due("reads of three", -1, x.reads(0, 3));
-        due("word(2)", -1, x.word(2));
+        Due.same("order(1, 10)", -1, x.order(1, 10));
+        Due.same("order(1, 20)", -1, x.order(1, 20));
+        Due.same("order(2, 0)", -1, x.order(2, 0));
+        Due.same("field(2, 0)", -1, x.field(2, 0));
+        Due.same("field(0, 3)", -1, x.field(0, 3));
+        Due.same("room(1, 0)", -1, x.room(1, 0));
+        Due.same("room(0, 5)", -1, x.room(0, 5));
+        Due.same("alias(2, 0)", -1, x.alias(2, 0));
+        Due.same("tests(3)", -1, x.tests(3));
+        Due.same("count(9)", -1, x.count(9));
+        Due.same("reads of no units", -1, x.reads(0, 0));
+        Due.same("reads of three", -1, x.reads(0, 3));
+        Due.same("word(2)", -1, x.word(2));
     }
 
     private static void giving() {
-        WordMint x = laid("field a 16;field b 1;field c 4;order p 1:a,b,c;order q 1:b;order r 1;", 16, 4);
-        due("give i below", false, x.give(-1, 0));
-        due("give i above", false, x.give(6, 0));
-        due("give v below", false, x.give(0, -1));
-        due("give v above", false, x.give(0, 65536));
-        due("0 at first", (long) x.order(0, 5) << 21, x.word(0));
-        due("give", true, x.give(0, 65535));
-        due("give", true, x.give(1, 1));
-        due("give", true, x.give(2, 15));
-        due("give the last", true, x.give(5, 65535));
-        due("all ones", ((long) x.order(0, 5) << 21) + 0x1fffff, x.word(0));
-        due("too great for q", -1, x.word(1));
-        due("r asks for none", (long) x.order(2, 5), x.word(2));
-        due("give", true, x.give(2, 16));
-        due("too great for c", -1, x.word(0));
-        due("give wrongly", false, x.give(2, 65536));
-        due("nothing changed", -1, x.word(0));
-        due("give", true, x.give(2, 0));
-        due("give", true, x.give(0, 1));
-        due("q", ((long) x.order(1, 5) << 1) + 1, x.word(1));
-        due("p", ((long) x.order(0, 5) << 21) + (1L << x.order(0, 10)) + (1L << x.order(0, 11)), x.word(0));
+        Desk x = Desk.laid("field a 16;field b 1;field c 4;order p 1:a,b,c;order q 1:b;order r 1;", 16, 4);
+        Due.same("give i below", false, x.give(-1, 0));
+        Due.same("give i above", false, x.give(6, 0));
+        Due.same("give v below", false, x.give(0, -1));
+        Due.same("give v above", false, x.give(0, 65536));
+        Due.same("0 at first", (long) x.order(0, 5) << 21, x.word(0));
+        Due.same("give", true, x.give(0, 65535));
+        Due.same("give", true, x.give(1, 1));
+        Due.same("give", true, x.give(2, 15));
+        Due.same("give the last", true, x.give(5, 65535));
+        Due.same("all ones", ((long) x.order(0, 5) << 21) + 0x1fffff, x.word(0));
+        Due.same("too great for q", -1, x.word(1));
+        Due.same("r asks for none", (long) x.order(2, 5), x.word(2));
+        Due.same("give", true, x.give(2, 16));
+        Due.same("too great for c", -1, x.word(0));
+        Due.same("give wrongly", false, x.give(2, 65536));
+        Due.same("nothing changed", -1, x.word(0));
+        Due.same("give", true, x.give(2, 0));
+        Due.same("give", true, x.give(0, 1));
+        Due.same("q", ((long) x.order(1, 5) << 1) + 1, x.word(1));
+        Due.same("p", ((long) x.order(0, 5) << 21) + (1L << x.order(0, 10)) + (1L << x.order(0, 11)), x.word(0));
         // a WORD of 32 bits with its highest one set is no number below 0
-        WordMint y = laid("room 64 24;room 64 24;field a 16;field b 7;order p 1:a,b;", 16, 2);
-        due("a WORD above 2^31", 0x80000000L, y.word(0));
-        due("it is read", 0, y.reads(0x80000000L, 2));
-        due("it is read with all bits above", 0, y.reads(0xffffffff80000000L, 2));
+        Desk y = Desk.laid("room 64 24;room 64 24;field a 16;field b 7;order p 1:a,b;", 16, 2);
+        Due.same("a WORD above 2^31", 0x80000000L, y.word(0));
+        Due.same("it is read", 0, y.reads(0x80000000L, 2));
+        Due.same("it is read with all bits above", 0, y.reads(0xffffffff80000000L, 2));
     }
 
     private static void readingWords() {
-        WordMint x = laid("field f 3;field g 2;order p 9:f,g;order q 1:g;order r 0:f;alias a=p,f 5,g 1;alias b=p,g 1;alias c=p;"
+        Desk x = Desk.laid("field f 3;field g 2;order p 9:f,g;order q 1:g;order r 0:f;alias a=p,f 5,g 1;alias b=p,g 1;alias c=p;"
             + "alias d=q,g 3;room 2 13;", 8, 10);
-        due("got ahead of any", -1, x.got(0));
-        due("p, f 5, g 1", 0, x.reads(5 << 2 | 1, 1));
-        due("f", 5, x.got(0));
-        due("g", 1, x.got(1));
-        due("the first ALIAS", 0, x.got(-1));
-        due("p, f 4, g 1", 0, x.reads(4 << 2 | 1, 1));
-        due("the second ALIAS", 1, x.got(-1));
-        due("p, g 2", 0, x.reads(2, 1));
-        due("an ALIAS without FIELDS", 2, x.got(-1));
-        due("no such FIELD", -1, x.got(2));
-        due("no such FIELD", -1, x.got(-2));
-        due("those behind are not looked at", 0, x.reads((5 << 2 | 1) << 8 | 0xff, 2));
-        due("f", 5, x.got(0));
-        due("only the lowest bits", 0, x.reads(0x7777777777770000L | 6, 1));
-        due("f", 1, x.got(0));
+        Due.same("got ahead of any", -1, x.got(0));
+        Due.same("p, f 5, g 1", 0, x.reads(5 << 2 | 1, 1));
+        Due.same("f", 5, x.got(0));
+        Due.same("g", 1, x.got(1));
+        Due.same("the first ALIAS", 0, x.got(-1));
+        Due.same("p, f 4, g 1", 0, x.reads(4 << 2 | 1, 1));
+        Due.same("the second ALIAS", 1, x.got(-1));
+        Due.same("p, g 2", 0, x.reads(2, 1));
+        Due.same("an ALIAS without FIELDS", 2, x.got(-1));
+        Due.same("no such FIELD", -1, x.got(2));
+        Due.same("no such FIELD", -1, x.got(-2));
+        Due.same("those behind are not looked at", 0, x.reads((5 << 2 | 1) << 8 | 0xff, 2));
+        Due.same("f", 5, x.got(0));
+        Due.same("only the lowest bits", 0, x.reads(0x7777777777770000L | 6, 1));
+        Due.same("f", 1, x.got(0));
         long free = (long) x.room(0, 4) << 13;
-        due("a free MARK", -1, x.reads(free, 2));
-        due("got stays", 2, x.got(1));
-        due("r in one UNIT", 2, x.reads((long) x.order(2, 5) << 3 | 6, 1));
-        due("no ALIAS", -1, x.got(-1));
-        due("one that comes", 3, add(x, "order s 1:f;"));
-        due("got stays", 6, x.got(0));
+        Due.same("a free MARK", -1, x.reads(free, 2));
+        Due.same("got stays", 2, x.got(1));
+        Due.same("r in one UNIT", 2, x.reads((long) x.order(2, 5) << 3 | 6, 1));
+        Due.same("no ALIAS", -1, x.got(-1));
+        Due.same("one that comes", 3, x.addText("order s 1:f;"));
+        Due.same("got stays", 6, x.got(0));
         long word = x.word(3);
-        due("its WORD", free, word);
-        due("two UNITS", 3, x.reads(word | 7, 2));
-        due("f", 7, x.got(0));
-        due("one of its UNITS", -1, x.reads(word >> 8, 1));
-        due("not with a bit behind its MARK", -1, x.reads(word | 8, 2));
-        due("no ALIAS of it", -1, x.got(-1));
+        Due.same("its WORD", free, word);
+        Due.same("two UNITS", 3, x.reads(word | 7, 2));
+        Due.same("f", 7, x.got(0));
+        Due.same("one of its UNITS", -1, x.reads(word >> 8, 1));
+        Due.same("not with a bit behind its MARK", -1, x.reads(word | 8, 2));
+        Due.same("no ALIAS of it", -1, x.got(-1));
         // a LONG ORDER whose MARK one UNIT holds
-        WordMint y = laid("field h 8;field i 5;order t 1:h,i;", 8, 2);
-        due("a MARK of three bits", 3, y.order(0, 4));
-        due("one UNIT is not enough", -1, y.reads(0, 1));
-        due("nothing was got", -1, y.got(0));
-        due("two are", 0, y.reads(0, 2));
-        due("laid again", 11, x.lay(8));
-        due("got is gone", -1, x.got(0));
-        due("its ALIAS is gone", -1, x.got(-1));
+        Desk y = Desk.laid("field h 8;field i 5;order t 1:h,i;", 8, 2);
+        Due.same("a MARK of three bits", 3, y.order(0, 4));
+        Due.same("one UNIT is not enough", -1, y.reads(0, 1));
+        Due.same("nothing was got", -1, y.got(0));
+        Due.same("two are", 0, y.reads(0, 2));
+        Due.same("laid again", 11, x.lay(8));
+        Due.same("got is gone", -1, x.got(0));
+        Due.same("its ALIAS is gone", -1, x.got(-1));
     }
 
     private static void decoding() {
-        WordMint none = laid("", 8, 0);
-        due("no TESTS", 0, none.tests(0));
-        due("no way", 0, none.tests(1));
-        due("no ends", 0, none.tests(2));
-        WordMint one = laid("order p 1;", 8, 1);
-        due("one MARK: no TEST", 0, one.tests(0));
-        due("one end", 1, one.tests(2));
-        due("nothing ahead of it", 0, one.order(0, 7));
-        WordMint rooms = laid("room 5 3;room 6 4;", 16, 0);
-        due("rooms alone: no TEST", 0, rooms.tests(0));
-        due("rooms alone: one end", 1, rooms.tests(2));
+        Desk none = Desk.laid("", 8, 0);
+        Due.same("no TESTS", 0, none.tests(0));
+        Due.same("no way", 0, none.tests(1));
+        Due.same("no ends", 0, none.tests(2));
+        Desk one = Desk.laid("order p 1;", 8, 1);
+        Due.same("one MARK: no TEST", 0, one.tests(0));
+        Due.same("one end", 1, one.tests(2));
+        Due.same("nothing ahead of it", 0, one.order(0, 7));
+        Desk rooms = Desk.laid("room 5 3;room 6 4;", 16, 0);
+        Due.same("rooms alone: no TEST", 0, rooms.tests(0));
+        Due.same("rooms alone: one end", 1, rooms.tests(2));
         // four of 8 bits: 0, 1, 2, 3: bit 6 and bit 7 each part them in halves
-        WordMint four = laid("order p 1;order q 1;order r 1;order s 1;", 8, 4);
-        due("three TESTS", 3, four.tests(0));
-        due("two to an end", 2, four.tests(1));
-        due("four ends", 4, four.tests(2));
-        due("two ahead", 2, four.order(3, 7));
+        Desk four = Desk.laid("order p 1;order q 1;order r 1;order s 1;", 8, 4);
+        Due.same("three TESTS", 3, four.tests(0));
+        Due.same("two to an end", 2, four.tests(1));
+        Due.same("four ends", 4, four.tests(2));
+        Due.same("two ahead", 2, four.order(3, 7));
         // MARKS 00, 010, 011, 10000000 .. : bit 0 parts 3 and 1, bit 1 parts 2 and 2
-        WordMint x = laid("field a 6;field b 5;order p 9:a;order q 9:b;order r 9:b;order s 9;", 8, 36);
-        due("TESTS", 3, x.tests(0));
-        due("to an end", 2, x.tests(1));
-        due("p", 2, x.order(0, 7));
-        due("s", 2, x.order(3, 7));
+        Desk x = Desk.laid("field a 6;field b 5;order p 9:a;order q 9:b;order r 9:b;order s 9;", 8, 36);
+        Due.same("TESTS", 3, x.tests(0));
+        Due.same("to an end", 2, x.tests(1));
+        Due.same("p", 2, x.order(0, 7));
+        Due.same("s", 2, x.order(3, 7));
         // p 0, q 1, a room's 2 and 3: bit 6 and bit 7 part them alike; by the first no more is asked of the room's
-        WordMint first = laid("order p 1;order q 1;room 2 8;", 8, 2);
-        due("TESTS", 2, first.tests(0));
-        due("ends", 3, first.tests(2));
-        due("q", 2, first.order(1, 7));
+        Desk first = Desk.laid("order p 1;order q 1;room 2 8;", 8, 2);
+        Due.same("TESTS", 2, first.tests(0));
+        Due.same("ends", 3, first.tests(2));
+        Due.same("q", 2, first.order(1, 7));
         // all MARKS of a room are taken: its end is none
-        WordMint taken = laid("order p 1;room 1 0;", 8, 1);
-        due("two ends", 2, taken.tests(2));
-        due("one that comes", 1, add(taken, "order q 1;"));
-        due("two ends", 2, taken.tests(2));
-        due("one TEST", 1, taken.tests(0));
-        due("ahead of q", 1, taken.order(1, 7));
-        WordMint y = laid("field a 6;order p 9:a;room 4 6;", 8, 9);
-        due("TESTS", 1, y.tests(0));
-        due("ends", 2, y.tests(2));
-        due("one that comes", 1, add(y, "order q 1:a;"));
-        due("TESTS", 3, y.tests(0));
-        due("to an end", 3, y.tests(1));
-        due("ends", 4, y.tests(2));
+        Desk taken = Desk.laid("order p 1;room 1 0;", 8, 1);
+        Due.same("two ends", 2, taken.tests(2));
+        Due.same("one that comes", 1, taken.addText("order q 1;"));
+        Due.same("two ends", 2, taken.tests(2));
+        Due.same("one TEST", 1, taken.tests(0));
+        Due.same("ahead of q", 1, taken.order(1, 7));
+        Desk y = Desk.laid("field a 6;order p 9:a;room 4 6;", 8, 9);
+        Due.same("TESTS", 1, y.tests(0));
+        Due.same("ends", 2, y.tests(2));
+        Due.same("one that comes", 1, y.addText("order q 1:a;"));
+        Due.same("TESTS", 3, y.tests(0));
+        Due.same("to an end", 3, y.tests(1));
+        Due.same("ends", 4, y.tests(2));
     }
 
     public static void main(String[] args) {
@@ -786,9 +737,6 @@ public final class WordMintPromises {
         giving();
         readingWords();
         decoding();
-        System.out.println(wrong == 0 ? "all promises are kept" : wrong + " answers are not as due");
-        if (wrong != 0) {
-            System.exit(1);
-        }
+        Due.end("all promises are kept");
     }
 }
