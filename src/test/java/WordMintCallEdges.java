@@ -360,10 +360,38 @@ public final class WordMintCallEdges {
         Due.same("its PLACE", 15, six.order(0, 10));
         Due.same("no seventh", -1, six.order(0, 26));
         Due.same("nor its PLACE", -1, six.order(0, 16));
+        lastOfForty();
         Due.same("read", 0, six.readText("field a 1;order p 1:a;"));
         for (int what : new int[] {3, 4, 5, 6, 7, 10}) {
             Due.same("nothing is laid: order(0, " + what + ")", -1, six.order(0, what));
         }
+    }
+
+    /** ORDERS of six FIELDS each, by turns in two rows; 24 that are told, 16 that come. */
+    private static void lastOfForty() {
+        String[] rows = {":a,b,c,d,e,f;", ":f,e,d,c,b,a;"};
+        StringBuilder text = new StringBuilder("field a 1;field b 1;field c 1;field d 1;field e 1;field f 2;room 64 7;");
+        for (int k = 0; k < 24; k++) {
+            text.append("order o").append(k).append(" 1").append(rows[k % 2]);
+        }
+        Desk x = Desk.laid(text.toString(), 16, 24);
+        for (int k = 24; k < 40; k++) {
+            Due.same("one that comes", k, x.addText("order o" + k + " " + k + rows[k % 2]));
+        }
+        for (int i = 0; i < 6; i++) {
+            Due.same("give", true, x.give(i, 1));
+            for (int k : new int[] {0, 1, 22, 23, 24, 38, 39}) {
+                int field = k % 2 == 0 ? i : 5 - i;
+                Due.same("FIELD " + i + " of ORDER " + k, field, x.order(k, 20 + i));
+                Due.same("its PLACE", field == 5 ? 0 : 6 - field, x.order(k, 10 + i));
+            }
+        }
+        Due.same("USE of the last", 39, x.order(39, 0));
+        Due.same("its BITS", 7, x.order(39, 2));
+        Due.same("its WORD", ((long) x.order(39, 5) << 7) + 0x7d, x.word(39));
+        Due.same("it is read", 39, x.reads(x.word(39), 2));
+        Due.same("its first number", 1, x.got(0));
+        Due.same("its last number", 1, x.got(5));
     }
 
     private static void field() {

@@ -501,6 +501,27 @@ public final class WordMintLayingEdges {
         Due.same("free", 19, x.count(7));
     }
 
+    /** 40 MARKS of 16 bits, and 256 free ones behind 0000000000101000: bit 10, then bit 12, parts these from all ORDERS. */
+    private static void mostMarks() {
+        Due.sentence("made of all MARKS: of ORDERS, and free ones of rooms");
+        StringBuilder text = new StringBuilder("room 64 0;room 64 0;room 64 0;room 64 0;");
+        for (int k = 0; k < 24; k++) {
+            text.append("order o").append(k).append(" 1;");
+        }
+        Desk x = Desk.laid(text.toString(), 16, 24);
+        for (int k = 24; k < 40; k++) {
+            Due.same("add", k, x.addText("order o" + k + " 1;"));
+        }
+        Due.same("free", 240, x.count(7));
+        Due.same("laid again", 40, x.lay(16));
+        Due.same("free", 256, x.count(7));
+        roomMark(x, 3, 32, (40 << 16) + 192);
+        tree(x, 40, 6, 41);
+        for (int k = 0; k < 40; k++) {
+            Due.same("TESTS ahead of ORDER " + k, k < 32 ? 6 : 5, x.order(k, 7));
+        }
+    }
+
     private static String fieldsOf(int bits) {
         String all = ((bits & 8) != 0 ? ",a" : "") + ((bits & 4) != 0 ? ",b" : "")
             + ((bits & 2) != 0 ? ",c" : "") + ((bits & 1) != 0 ? ",d" : "");
@@ -525,6 +546,7 @@ public final class WordMintLayingEdges {
         nothingIsAsked();
         bitThatIsAsked();
         deepestTree();
+        mostMarks();
         Due.end("all of parts II and III is as due");
     }
 }

@@ -1,3 +1,6 @@
+import java.util.ArrayList;
+import java.util.List;
+
 /** The document's Terms, part I: each sentence with the last that is taken and the first that is refused. */
 public final class WordMintTextEdges {
     private static final String[] QUOTED = {"field", "order", "alias", "room"};
@@ -138,6 +141,11 @@ public final class WordMintTextEdges {
             fault(1, "field a 1;order o 1:a;alias p=o,^" + word + " 1;");
             for (String near : new String[] {word + "s", word + "1", "a" + word, word.substring(1), word.substring(0, 3)}) {
                 good("field " + near + " 1;order " + near + " 1:" + near + ";alias p=" + near + "," + near + " 1;");
+            }
+            for (int i = 0; i < word.length(); i++) {
+                String other = word.substring(0, i) + "x" + word.substring(i + 1);
+                good("field " + other + " 1;order " + other + " 1:" + other + ";");
+                fault(1, 0, other + " a 1;");
             }
         }
     }
@@ -310,6 +318,13 @@ public final class WordMintTextEdges {
         Due.same("ORDERS", 24, x.count(1));
         Due.same("ALIASES", 16, x.count(2));
         Due.same("rooms", 4, x.count(3));
+        // a text has as many again, whatever was told ahead
+        Due.same("the same again", 0, x.readText(rooms + fields + orders + aliases));
+        Due.same("and others", 0, x.readText(aliasesOfSix()));
+        Due.same("the last FIELD of the last ALIAS", 5, x.alias(15, 15));
+        Due.same("its number", 15, x.alias(15, 25));
+        Due.same("the last of the one ahead", 14, x.alias(14, 25));
+        Due.same("its first", 9, x.alias(14, 20));
         fault(2, fields + " ^field g 1;");
         fault(2, orders + " ^order g 1;");
         fault(2, orders + aliases + " ^alias g=o0;");
@@ -329,6 +344,12 @@ public final class WordMintTextEdges {
         good(orders + "field g 1;room 1 1;alias p=o0;");
         // the first by its place, of two kinds
         fault(2, rooms + "^room 1 1;" + fields + "field g 1;");
+    }
+
+    /** 16 ALIASES of six FIELDS; the last of the k-th is held to k. */
+    private static String aliasesOfSix() {
+        return numbered("field f# 4;", 0, 6) + "order o 1:f0,f1,f2,f3,f4,f5;"
+            + numbered("alias a#=o,f0 9,f1 8,f2 7,f3 6,f4 5,f5 #;", 0, 16);
     }
 
     private static void fieldsOfOne() {
@@ -384,6 +405,29 @@ public final class WordMintTextEdges {
         fault(3, numbered("order o# 1;", 0, 23) + "alias ^o22=o1;");
         fault(3, "order o 1;" + numbered("alias a#=o;", 0, 15) + "alias ^a14=o;");
         fault(3, "order o 1;" + numbered("alias a#=o;", 0, 16) + "order ^a15 1;");
+    }
+
+    /** All NAMES of one or two, each together with each other in some text. */
+    private static void namesOnce() {
+        Due.sentence("3 TWICE: a NAME told already");
+        String letters = "abcdefghijklmnopqrstuvwxyz";
+        List<String> names = new ArrayList<>();
+        for (char first : letters.toCharArray()) {
+            names.add(String.valueOf(first));
+            for (char second : (letters + "0123456789").toCharArray()) {
+                names.add(String.valueOf(first) + second);
+            }
+        }
+        List<String> dozens = new ArrayList<>();
+        for (int from = 0; from < names.size(); from += 12) {
+            List<String> dozen = names.subList(from, Math.min(from + 12, names.size()));
+            dozens.add("order " + String.join(" 1;order ", dozen) + " 1;");
+        }
+        for (int i = 0; i < dozens.size(); i++) {
+            for (int j = i + 1; j < dozens.size(); j++) {
+                good(dozens.get(i) + dozens.get(j));
+            }
+        }
     }
 
     private static void fieldsTwice() {
@@ -569,6 +613,7 @@ public final class WordMintTextEdges {
         fieldsOfOne();
         shapeAheadOfMeaning();
         namesTwice();
+        namesOnce();
         fieldsTwice();
         namesThatAreNone();
         wrongWidths();
