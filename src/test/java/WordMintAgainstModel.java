@@ -1013,11 +1013,49 @@ public final class WordMintAgainstModel {
         }
     }
 
+    /** As many MARKS as there can be: 40 ORDERS, and four rooms of 64 that are free. */
+    private static void runFull(long seed) {
+        Due.sentence("full, seed " + seed);
+        Random r = new Random(seed);
+        Desk x = new Desk();
+        Model m = new Model();
+        StringBuilder text = new StringBuilder("field a 1;field b 2;field c 4;");
+        for (int i = 0; i < 4; i++) {
+            text.append("room 64 ").append(r.nextInt(r.nextBoolean() ? 24 : 12)).append(";");
+        }
+        for (int k = 0; k < 24; k++) {
+            text.append(fullOrder(r, k));
+        }
+        feed(x, m, text.toString());
+        Due.same("read of <" + text + ">", m.read(), x.read());
+        Due.same("lay", m.lay(16), x.lay(16));
+        for (int k = 24; k < 40; k++) {
+            feed(x, m, fullOrder(r, k));
+            Due.same("add", m.add(), x.add());
+        }
+        Due.same("laid again", m.lay(16), x.lay(16));
+        note("MARKS in all " + (m.orders.size() + m.count(7)));
+        for (int what = 0; what <= 2; what++) {
+            Due.same("tests(" + what + ") of <" + text + ">", m.tests(what), x.tests(what));
+        }
+        for (int k = 0; k < 40; k++) {
+            Due.same("order(" + k + ", 7) of <" + text + ">", m.order(k, 7), x.order(k, 7));
+        }
+    }
+
+    private static String fullOrder(Random r, int k) {
+        String[] lists = {"", ":a", ":b", ":c", ":b,a", ":c,b", ":a,b,c"};
+        return "order o" + k + " " + r.nextInt(5) + lists[r.nextInt(lists.length)] + ";";
+    }
+
     public static void main(String[] args) {
         int runs = args.length > 0 ? Integer.parseInt(args[0]) : 2000;
         int first = args.length > 1 ? Integer.parseInt(args[1]) : 0;
         for (long seed = first; seed < first + runs; seed++) {
             run(seed);
+        }
+        for (long seed = first; seed < first + runs / 20; seed++) {
+            runFull(seed);
         }
         System.out.println(new java.util.TreeMap<>(seen));
         Due.end("all answers are the model's");
